@@ -437,19 +437,11 @@ public final class ThreeModeJournal {
         }
 
         int liveCopies(int t) {
-            int hidden = 0;
-            for (int later = t + 1; later < count; later++) {
-                hidden |= copied[slot(later)] | revoked[slot(later)];
-            }
-            return copied[slot(t)] & ~hidden;
+            return copiesToRecover(t) & ~unionBehind(t, copied);
         }
 
         int copiesToRecover(int t) {
-            int hidden = 0;
-            for (int later = t + 1; later < count; later++) {
-                hidden |= revoked[slot(later)];
-            }
-            return copied[slot(t)] & ~hidden;
+            return copied[slot(t)] & ~unionBehind(t, revoked);
         }
 
         boolean hasLiveCopy(int b) {
@@ -486,6 +478,14 @@ public final class ThreeModeJournal {
         void forgetOldest(int k) {
             oldest = slot(k);
             count -= k;
+        }
+
+        private int unionBehind(int t, int[] sets) {
+            int union = 0;
+            for (int later = t + 1; later < count; later++) {
+                union |= sets[slot(later)];
+            }
+            return union;
         }
 
         private int slot(int t) {

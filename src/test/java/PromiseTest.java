@@ -60,7 +60,9 @@ public final class PromiseTest {
         crashLosesMemory();
         promise = 13;
         mountRecovers();
+        mountRecoversEveryCopy();
         mountLeavesRevokedCopies();
+        mountLeavesAllRevokedCopies();
         mountFails();
         mountRefused();
         promise = 14;
@@ -652,6 +654,8 @@ public final class PromiseTest {
         due("dirty", x.dirty(), 0);
         due("home", x.home(7, 3), 77);
         due("room", x.room(), 19);
+        x.crash();
+        due("mount: commits of nothing are not in the log", x.mount(ORDERED), 1);
         due("commit when down", down().commit(), NONE);
     }
 
@@ -1097,6 +1101,53 @@ public final class PromiseTest {
         x.crash();
         x.mount(FULL);
         due("read of what was lost", x.read(0, 0), wordOf(0, 0));
+    }
+
+    /** Nine copies in one transaction, from each place of the ring on. */
+    private static void mountRecoversEveryCopy() {
+        for (int skipped = 0; skipped < 8; skipped++) {
+            ThreeModeJournal x = in(FULL);
+            for (int i = 0; i < skipped; i++) {
+                x.rename(5, 4);
+                x.rename(3, 4);
+                due("commit", x.commit(), 5);
+            }
+            grow(x, 0, 24);
+            due("need of the second transaction", x.need(), 4);
+            due("head", x.head(), (5 * skipped + 13) % 24);
+            x.commit();
+            x.crash();
+            x.mount(WRITEBACK);
+            dueHome(x, 0, 24, 7, 8, 9);
+            dueHome(x, 6, 0x7F, 0, 0, 0);
+            dueHome(x, 9, 10, 11, 12, 13);
+            for (int o = 0; o < 24; o++) {
+                due("read", x.read(0, o), wordOf(0, o));
+            }
+        }
+    }
+
+    private static void mountLeavesAllRevokedCopies() {
+        ThreeModeJournal x = new ThreeModeJournal();
+        grow(x, 0, 9);
+        grow(x, 1, 9);
+        due("commit", x.commit(), 8);
+        x.cut(0, 8);
+        x.cut(1, 8);
+        due("commit", x.commit(), 6);
+        x.write(2, 0, 1);
+        x.write(3, 0, 2);
+        x.write(4, 0, 3);
+        due("commit", x.commit(), 6);
+        due("data in the first index", x.home(9, 0), 1);
+        due("data in a data block", x.home(10, 0), 2);
+        due("data in the second index", x.home(13, 0), 3);
+        int before = x.writes();
+        x.crash();
+        due("mount", x.mount(ORDERED), 3);
+        due("writes", x.writes(), before + 3 + 3 + 4 + 1);
+        due("read", x.read(2, 0), 1);
+        due("read", x.read(4, 0), 3);
     }
 
     private static void mountLeavesRevokedCopies() {
