@@ -437,7 +437,7 @@ public final class ThreeModeJournal {
         }
 
         int liveCopies(int t) {
-            return copiesToRecover(t) & ~unionBehind(t, copied);
+            return copied[slot(t)] & ~(unionBehind(t, copied) | unionBehind(t, revoked));
         }
 
         int copiesToRecover(int t) {
