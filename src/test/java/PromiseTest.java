@@ -1,155 +1,12 @@
 /** For each promise of the document: ordinary calls, the edges that it names, and wrong arguments. */
-public final class PromiseTest {
-    private static final int WRITEBACK = ThreeModeJournal.WRITEBACK;
-    private static final int ORDERED = ThreeModeJournal.ORDERED;
-    private static final int FULL = ThreeModeJournal.FULL;
-    private static final int NONE = ThreeModeJournal.NONE;
-    private static final int FAILED = ThreeModeJournal.FAILED;
-    private static final int[] NO_FILES = {-1, 6, 7, 22, Integer.MIN_VALUE, Integer.MAX_VALUE};
-
-    private static int promise = 0;
-    private static int checked = 0;
-    private static int wrong = 0;
-
+public final class PromiseTest extends Checks {
     public static void main(String[] args) {
-        promise = 1;
-        newObject();
-        promise = 2;
-        writeSetsAndGrows();
-        writeTakesBlocks();
-        writeInFullMode();
-        writeRefused();
-        writeLeavesOldWords();
-        writeTakesWhatTheLastCommitLeft();
-        writeCommitsLargeTransaction();
-        largeTransactionAndRefusal();
-        promise = 3;
-        cutJoinsAndFrees();
-        cutRevokes();
-        cutTakesOutOfRunningTransaction();
-        cutRefused();
-        cutAndLargeTransaction();
-        promise = 4;
-        renameMoves();
-        renameRefused();
-        renameAndLargeTransaction();
-        promise = 5;
-        readPresentWords();
-        promise = 6;
-        lengthOfFiles();
-        promise = 7;
-        commitWrites();
-        commitInEachMode();
-        commitMakesRoom();
-        commitMakesRoomOfSeveral();
-        commitAndPower();
-        commitCheckpointsThenFails();
-        promise = 8;
-        syncWritesOwnBlocks();
-        syncRefusedOrFailed();
-        promise = 9;
-        flushInOrder();
-        flushRefusedOrFailed();
-        promise = 10;
-        checkpointLiveCopies();
-        checkpointTogether();
-        checkpointRefusedOrFailed();
-        promise = 11;
-        fuseCountsWrites();
-        promise = 12;
-        crashLosesMemory();
-        promise = 13;
-        mountRecovers();
-        mountRecoversEveryCopy();
-        mountLeavesRevokedCopies();
-        mountLeavesAllRevokedCopies();
-        mountFails();
-        mountRefused();
-        promise = 14;
-        modes();
-        promise = 15;
-        homeWords();
-        promise = 16;
-        needs();
-        promise = 17;
-        roomInLog();
-        promise = 18;
-        headGoesRound();
-        promise = 19;
-        dirtyBlocks();
-        promise = 20;
-        freeBlocks();
-        promise = 21;
-        writesMade();
-        promise = 0;
-        exampleOfReadme();
-        System.out.println(wrong == 0 ? checked + " answers are as due" : wrong + " answers are not as due");
-        if (wrong != 0) {
-            System.exit(1);
-        }
-    }
-
-    private static void due(String what, int got, int want) {
-        checked++;
-        if (got != want) {
-            wrong++;
-            StackTraceElement at = Thread.currentThread().getStackTrace()[2];
-            if (at.getMethodName().equals("due")) {
-                at = Thread.currentThread().getStackTrace()[3];
-            }
-            System.out.println("promise " + promise + ", " + at.getMethodName() + ", line " + at.getLineNumber() + ": "
-                + what + " answered " + got + ", due is " + want);
-        }
-    }
-
-    private static void due(String what, boolean got, boolean want) {
-        due(what, got ? 1 : 0, want ? 1 : 0);
-    }
-
-    private static ThreeModeJournal in(int mode) {
-        ThreeModeJournal x = new ThreeModeJournal();
-        x.crash();
-        due("mount", x.mount(mode), 0);
-        return x;
-    }
-
-    private static ThreeModeJournal down() {
-        ThreeModeJournal x = new ThreeModeJournal();
-        grow(x, 0, 3);
-        x.commit();
-        x.crash();
-        return x;
-    }
-
-    private static int wordOf(int f, int o) {
-        return 1000 * (f + 1) + o;
-    }
-
-    private static void grow(ThreeModeJournal x, int f, int n) {
-        for (int o = x.length(f); o < n; o++) {
-            due("write(" + f + ", " + o + ")", x.write(f, o, wordOf(f, o)), true);
-        }
-    }
-
-    private static void dueHome(ThreeModeJournal x, int b, int w0, int w1, int w2, int w3) {
-        int[] want = {w0, w1, w2, w3};
-        for (int w = 0; w < 4; w++) {
-            due("home(" + b + ", " + w + ")", x.home(b, w), want[w]);
-        }
-    }
-
-    /** Files 0 and 1 have 7 blocks each and file 2 has 2: the whole pool. */
-    private static void fillPool(ThreeModeJournal x) {
-        grow(x, 0, 24);
-        grow(x, 1, 24);
-        grow(x, 2, 8);
-        due("free", x.free(), 0);
-        x.commit();
+        runTests(PromiseTest.class);
     }
 
     // Promise 1
 
-    private static void newObject() {
+    static void promise1_newObject() {
         ThreeModeJournal x = new ThreeModeJournal();
         due("mode", x.mode(), ORDERED);
         for (int f = 0; f < 6; f++) {
@@ -175,7 +32,7 @@ public final class PromiseTest {
 
     // Promise 2
 
-    private static void writeSetsAndGrows() {
+    static void promise2_writeSetsAndGrows() {
         ThreeModeJournal x = new ThreeModeJournal();
         due("write", x.write(5, 0, Integer.MIN_VALUE), true);
         due("read", x.read(5, 0), Integer.MIN_VALUE);
@@ -195,7 +52,7 @@ public final class PromiseTest {
         due("writes of write", x.writes(), 5);
     }
 
-    private static void writeTakesBlocks() {
+    static void promise2_writeTakesBlocks() {
         ThreeModeJournal x = new ThreeModeJournal();
         int[] needs = {4, 3, 3, 3, 4, 3, 3, 3, 5, 3, 3, 3, 5, 3, 3, 3, 5, 3, 3, 3, 5, 3, 3, 3};
         int[] left = {15, 15, 15, 15, 14, 14, 14, 14, 12, 12, 12, 12, 11, 11, 11, 11, 10, 10, 10, 10, 9, 9, 9, 9};
@@ -222,7 +79,7 @@ public final class PromiseTest {
         due("read", x.read(0, 23), -23);
     }
 
-    private static void writeInFullMode() {
+    static void promise2_writeInFullMode() {
         ThreeModeJournal x = in(FULL);
         due("write", x.write(0, 0, 1), true);
         due("need of inode, map and data", x.need(), 5);
@@ -237,7 +94,7 @@ public final class PromiseTest {
         due("need of inode, map, index and data", x.need(), 6);
     }
 
-    private static void writeRefused() {
+    static void promise2_writeRefused() {
         ThreeModeJournal x = new ThreeModeJournal();
         grow(x, 0, 2);
         for (int f : NO_FILES) {
@@ -273,7 +130,7 @@ public final class PromiseTest {
         due("free", y.free(), 0);
     }
 
-    private static void writeLeavesOldWords() {
+    static void promise2_writeLeavesOldWords() {
         ThreeModeJournal x = new ThreeModeJournal();
         grow(x, 0, 4);
         x.commit();
@@ -288,7 +145,7 @@ public final class PromiseTest {
         dueHome(x, 7, 6, 0, 0, 0);
     }
 
-    private static void writeTakesWhatTheLastCommitLeft() {
+    static void promise2_writeTakesWhatTheLastCommitLeft() {
         ThreeModeJournal x = new ThreeModeJournal();
         grow(x, 0, 8);
         x.cut(0, 4);
@@ -313,17 +170,7 @@ public final class PromiseTest {
         due("block 10 was not", x.home(10, 0), 4);
     }
 
-    /** Nine blocks are joined: four inodes, the map, four data blocks. */
-    private static ThreeModeJournal large() {
-        ThreeModeJournal x = in(FULL);
-        for (int f = 0; f < 4; f++) {
-            grow(x, f, 1);
-        }
-        due("need", x.need(), 13);
-        return x;
-    }
-
-    private static void writeCommitsLargeTransaction() {
+    static void promise2_writeCommitsLargeTransaction() {
         ThreeModeJournal x = large();
         due("write", x.write(0, 1, 7), true);
         due("need", x.need(), 4);
@@ -344,7 +191,7 @@ public final class PromiseTest {
         due("room", y.room(), 24);
     }
 
-    private static void largeTransactionAndRefusal() {
+    static void promise2_largeTransactionAndRefusal() {
         ThreeModeJournal x = large();
         due("write", x.write(0, 2, 7), false);
         due("write", x.write(6, 0, 7), false);
@@ -382,24 +229,9 @@ public final class PromiseTest {
         due("head", z.head(), 22);
     }
 
-    /** Eight blocks are joined (six inodes, the map, an index) and one index is revoked. */
-    private static ThreeModeJournal needOfTwelve() {
-        ThreeModeJournal x = new ThreeModeJournal();
-        grow(x, 0, 9);
-        grow(x, 1, 9);
-        due("commit of two inodes, the map, two indexes", x.commit(), 8);
-        x.cut(0, 8);
-        grow(x, 1, 13);
-        for (int f = 2; f < 6; f++) {
-            x.write(f, 0, 1);
-        }
-        due("need", x.need(), 12);
-        return x;
-    }
-
     // Promise 3
 
-    private static void cutJoinsAndFrees() {
+    static void promise3_cutJoinsAndFrees() {
         ThreeModeJournal x = new ThreeModeJournal();
         grow(x, 0, 24);
         x.commit();
@@ -426,7 +258,7 @@ public final class PromiseTest {
         }
     }
 
-    private static void cutRevokes() {
+    static void promise3_cutRevokes() {
         for (int mode = WRITEBACK; mode <= FULL; mode++) {
             ThreeModeJournal x = in(mode);
             grow(x, 0, 9);
@@ -460,7 +292,7 @@ public final class PromiseTest {
         due("need with the index revoked once", x.need(), 5);
     }
 
-    private static void cutTakesOutOfRunningTransaction() {
+    static void promise3_cutTakesOutOfRunningTransaction() {
         ThreeModeJournal x = new ThreeModeJournal();
         grow(x, 0, 9);
         due("dirty", x.dirty(), 3);
@@ -484,7 +316,7 @@ public final class PromiseTest {
         due("need", y.need(), 4);
     }
 
-    private static void cutRefused() {
+    static void promise3_cutRefused() {
         ThreeModeJournal x = new ThreeModeJournal();
         grow(x, 0, 5);
         x.commit();
@@ -501,7 +333,7 @@ public final class PromiseTest {
         due("cut when down", down().cut(0, 0), false);
     }
 
-    private static void cutAndLargeTransaction() {
+    static void promise3_cutAndLargeTransaction() {
         ThreeModeJournal x = large();
         due("cut", x.cut(0, 1), false);
         due("writes", x.writes(), 0);
@@ -516,7 +348,7 @@ public final class PromiseTest {
 
     // Promise 4
 
-    private static void renameMoves() {
+    static void promise4_renameMoves() {
         ThreeModeJournal x = new ThreeModeJournal();
         grow(x, 0, 9);
         grow(x, 1, 5);
@@ -562,7 +394,7 @@ public final class PromiseTest {
         due("dirty", z.dirty(), 1);
     }
 
-    private static void renameRefused() {
+    static void promise4_renameRefused() {
         ThreeModeJournal x = new ThreeModeJournal();
         grow(x, 0, 1);
         x.commit();
@@ -578,7 +410,7 @@ public final class PromiseTest {
         due("rename when down", down().rename(0, 1), false);
     }
 
-    private static void renameAndLargeTransaction() {
+    static void promise4_renameAndLargeTransaction() {
         ThreeModeJournal x = large();
         due("rename", x.rename(0, 0), false);
         due("writes", x.writes(), 0);
@@ -594,7 +426,7 @@ public final class PromiseTest {
 
     // Promise 5
 
-    private static void readPresentWords() {
+    static void promise5_readPresentWords() {
         ThreeModeJournal x = in(WRITEBACK);
         for (int f = 0; f < 2; f++) {
             grow(x, f, 24 - 23 * f);
@@ -621,7 +453,7 @@ public final class PromiseTest {
 
     // Promise 6
 
-    private static void lengthOfFiles() {
+    static void promise6_lengthOfFiles() {
         ThreeModeJournal x = new ThreeModeJournal();
         for (int f = 0; f < 6; f++) {
             grow(x, f, f);
@@ -637,7 +469,7 @@ public final class PromiseTest {
 
     // Promise 7
 
-    private static void commitWrites() {
+    static void promise7_commitWrites() {
         ThreeModeJournal x = new ThreeModeJournal();
         due("commit of nothing", x.commit(), 0);
         due("writes", x.writes(), 0);
@@ -659,7 +491,7 @@ public final class PromiseTest {
         due("commit when down", down().commit(), NONE);
     }
 
-    private static void commitInEachMode() {
+    static void promise7_commitInEachMode() {
         ThreeModeJournal x = in(WRITEBACK);
         grow(x, 0, 5);
         due("commit", x.commit(), 4);
@@ -691,21 +523,7 @@ public final class PromiseTest {
         due("the other not", z.home(7, 0), wordOf(0, 0));
     }
 
-    /** Transactions of 4, 3, 3, 3, 4, 3, 3 blocks: one log block is left. */
-    private static ThreeModeJournal almostFullLog() {
-        ThreeModeJournal x = new ThreeModeJournal();
-        int[] sizes = {4, 3, 3, 3, 4, 3, 3};
-        for (int o = 0; o < 7; o++) {
-            grow(x, 0, o + 1);
-            due("commit", x.commit(), sizes[o]);
-        }
-        due("room", x.room(), 1);
-        due("head", x.head(), 23);
-        due("writes", x.writes(), 30);
-        return x;
-    }
-
-    private static void commitMakesRoom() {
+    static void promise7_commitMakesRoom() {
         ThreeModeJournal x = almostFullLog();
         grow(x, 0, 8);
         due("commit", x.commit(), 3);
@@ -733,7 +551,7 @@ public final class PromiseTest {
         due("room", y.room(), 1);
     }
 
-    private static void commitMakesRoomOfSeveral() {
+    static void promise7_commitMakesRoomOfSeveral() {
         ThreeModeJournal x = almostFullLog();
         grow(x, 1, 1);
         grow(x, 2, 1);
@@ -751,7 +569,7 @@ public final class PromiseTest {
         due("length", x.length(3), 1);
     }
 
-    private static void commitAndPower() {
+    static void promise7_commitAndPower() {
         for (int k = 0; k <= 6; k++) {
             ThreeModeJournal x = new ThreeModeJournal();
             grow(x, 0, 5);
@@ -770,7 +588,7 @@ public final class PromiseTest {
         }
     }
 
-    private static void commitCheckpointsThenFails() {
+    static void promise7_commitCheckpointsThenFails() {
         ThreeModeJournal x = almostFullLog();
         grow(x, 0, 8);
         x.fuse(1);
@@ -789,7 +607,7 @@ public final class PromiseTest {
 
     // Promise 8
 
-    private static void syncWritesOwnBlocks() {
+    static void promise8_syncWritesOwnBlocks() {
         ThreeModeJournal x = in(WRITEBACK);
         grow(x, 0, 8);
         grow(x, 1, 1);
@@ -827,7 +645,7 @@ public final class PromiseTest {
         due("sync of nothing", z.sync(0), true);
     }
 
-    private static void syncRefusedOrFailed() {
+    static void promise8_syncRefusedOrFailed() {
         ThreeModeJournal x = in(WRITEBACK);
         grow(x, 0, 8);
         for (int f : NO_FILES) {
@@ -853,7 +671,7 @@ public final class PromiseTest {
 
     // Promise 9
 
-    private static void flushInOrder() {
+    static void promise9_flushInOrder() {
         ThreeModeJournal x = new ThreeModeJournal();
         grow(x, 0, 4);
         grow(x, 1, 4);
@@ -889,7 +707,7 @@ public final class PromiseTest {
         due("flush in FULL mode", z.flush(1), 0);
     }
 
-    private static void flushRefusedOrFailed() {
+    static void promise9_flushRefusedOrFailed() {
         ThreeModeJournal x = in(WRITEBACK);
         grow(x, 0, 12);
         int[] counts = {0, -1, Integer.MIN_VALUE};
@@ -912,7 +730,7 @@ public final class PromiseTest {
 
     // Promise 10
 
-    private static void checkpointLiveCopies() {
+    static void promise10_checkpointLiveCopies() {
         ThreeModeJournal x = new ThreeModeJournal();
         due("checkpoint of no log", x.checkpoint(1), 0);
         grow(x, 0, 1);
@@ -937,7 +755,7 @@ public final class PromiseTest {
         due("writes", x.writes(), 20);
     }
 
-    private static void checkpointTogether() {
+    static void promise10_checkpointTogether() {
         ThreeModeJournal x = new ThreeModeJournal();
         grow(x, 0, 9);
         x.commit();
@@ -962,7 +780,7 @@ public final class PromiseTest {
         due("what was revoked stays so", y.need(), 5);
     }
 
-    private static void checkpointRefusedOrFailed() {
+    static void promise10_checkpointRefusedOrFailed() {
         for (int k = 0; k <= 4; k++) {
             ThreeModeJournal x = new ThreeModeJournal();
             grow(x, 1, 9);
@@ -996,7 +814,7 @@ public final class PromiseTest {
 
     // Promise 11
 
-    private static void fuseCountsWrites() {
+    static void promise11_fuseCountsWrites() {
         ThreeModeJournal x = new ThreeModeJournal();
         grow(x, 0, 1);
         x.fuse(0);
@@ -1039,7 +857,7 @@ public final class PromiseTest {
 
     // Promise 12
 
-    private static void crashLosesMemory() {
+    static void promise12_crashLosesMemory() {
         ThreeModeJournal x = new ThreeModeJournal();
         grow(x, 0, 3);
         due("crash", x.crash(), true);
@@ -1067,7 +885,7 @@ public final class PromiseTest {
 
     // Promise 13
 
-    private static void mountRecovers() {
+    static void promise13_mountRecovers() {
         ThreeModeJournal x = new ThreeModeJournal();
         grow(x, 0, 1);
         x.commit();
@@ -1104,7 +922,7 @@ public final class PromiseTest {
     }
 
     /** Nine copies in one transaction, from each place of the ring on. */
-    private static void mountRecoversEveryCopy() {
+    static void promise13_mountRecoversEveryCopy() {
         for (int skipped = 0; skipped < 8; skipped++) {
             ThreeModeJournal x = in(FULL);
             for (int i = 0; i < skipped; i++) {
@@ -1127,7 +945,7 @@ public final class PromiseTest {
         }
     }
 
-    private static void mountLeavesAllRevokedCopies() {
+    static void promise13_mountLeavesAllRevokedCopies() {
         ThreeModeJournal x = new ThreeModeJournal();
         grow(x, 0, 9);
         grow(x, 1, 9);
@@ -1150,7 +968,7 @@ public final class PromiseTest {
         due("read", x.read(4, 0), 3);
     }
 
-    private static void mountLeavesRevokedCopies() {
+    static void promise13_mountLeavesRevokedCopies() {
         ThreeModeJournal x = new ThreeModeJournal();
         grow(x, 0, 9);
         x.commit();
@@ -1190,7 +1008,7 @@ public final class PromiseTest {
         due("length", z.length(0), 9);
     }
 
-    private static void mountFails() {
+    static void promise13_mountFails() {
         for (int k = 0; k <= 5; k++) {
             ThreeModeJournal x = new ThreeModeJournal();
             grow(x, 1, 1);
@@ -1213,7 +1031,7 @@ public final class PromiseTest {
         }
     }
 
-    private static void mountRefused() {
+    static void promise13_mountRefused() {
         ThreeModeJournal x = down();
         int[] modes = {-1, 3, Integer.MIN_VALUE, Integer.MAX_VALUE};
         for (int m : modes) {
@@ -1230,7 +1048,7 @@ public final class PromiseTest {
 
     // Promises 14 to 21
 
-    private static void modes() {
+    static void promise14_modes() {
         due("WRITEBACK", WRITEBACK, 0);
         due("ORDERED", ORDERED, 1);
         due("FULL", FULL, 2);
@@ -1244,7 +1062,7 @@ public final class PromiseTest {
         }
     }
 
-    private static void homeWords() {
+    static void promise15_homeWords() {
         ThreeModeJournal x = new ThreeModeJournal();
         grow(x, 0, 4);
         dueHome(x, 7, 0, 0, 0, 0);
@@ -1266,7 +1084,7 @@ public final class PromiseTest {
         }
     }
 
-    private static void needs() {
+    static void promise16_needs() {
         ThreeModeJournal x = in(FULL);
         due("need of nothing", x.need(), 0);
         int[] needs = {5, 6, 9, 10, 11, 13};
@@ -1292,7 +1110,7 @@ public final class PromiseTest {
         due("need", y.need(), 0);
     }
 
-    private static void roomInLog() {
+    static void promise17_roomInLog() {
         ThreeModeJournal x = almostFullLog();
         int[] left = {5, 8, 11, 14, 18, 21, 24, 24};
         for (int room : left) {
@@ -1303,7 +1121,7 @@ public final class PromiseTest {
         due("room when down", x.room(), NONE);
     }
 
-    private static void headGoesRound() {
+    static void promise18_headGoesRound() {
         ThreeModeJournal x = new ThreeModeJournal();
         int place = 0;
         grow(x, 0, 1);
@@ -1336,7 +1154,7 @@ public final class PromiseTest {
         }
     }
 
-    private static void dirtyBlocks() {
+    static void promise19_dirtyBlocks() {
         ThreeModeJournal x = in(WRITEBACK);
         due("dirty", x.dirty(), 0);
         grow(x, 0, 24);
@@ -1355,7 +1173,7 @@ public final class PromiseTest {
         due("dirty when down", x.dirty(), NONE);
     }
 
-    private static void freeBlocks() {
+    static void promise20_freeBlocks() {
         ThreeModeJournal x = new ThreeModeJournal();
         due("free", x.free(), 16);
         grow(x, 0, 9);
@@ -1378,7 +1196,7 @@ public final class PromiseTest {
         due("free of what the mount had", x.free(), 15);
     }
 
-    private static void writesMade() {
+    static void promise21_writesMade() {
         ThreeModeJournal x = new ThreeModeJournal();
         grow(x, 0, 5);
         due("writes", x.writes(), 0);
@@ -1402,7 +1220,7 @@ public final class PromiseTest {
         due("writes", x.writes(), 16);
     }
 
-    private static void exampleOfReadme() {
+    static void readme_example() {
         ThreeModeJournal fs = new ThreeModeJournal();
         due("write", fs.write(0, 0, 11), true);
         due("commit", fs.commit(), 4);
