@@ -6,11 +6,13 @@ import java.util.TreeSet;
 
 /**
  * Long runs of calls, drawn from fixed seeds, on the class and on a second, slower writing of the document; every
- * answer and, after every call, everything that can be seen of the two must be the same.
+ * answer must be the same. No object gets more than the 512 calls that the document speaks of.
  */
 public final class ModelComparisonTest {
-    private static final int RUNS = 4000;
+    private static final int RUNS = 20000;
     private static final int CALLS = 512;
+    private static final String[] LOOKS = {
+        "mode", "need", "room", "head", "dirty", "free", "writes", "length", "read", "home"};
 
     /** What the runs came through, so that a change of the draws can't empty the test unseen. */
     private static final TreeMap<String, Integer> met = new TreeMap<>();
@@ -18,7 +20,7 @@ public final class ModelComparisonTest {
 
     public static void main(String[] args) {
         for (int seed = 1; seed <= RUNS && wrong < 10; seed++) {
-            compare(seed);
+            new Run(seed).compare();
         }
         String[] wanted = {
             "failed: checkpoint", "failed: commit", "failed: cut", "failed: flush", "failed: mount", "failed: rename",
@@ -41,30 +43,72 @@ public final class ModelComparisonTest {
         met.merge(what, 1, Integer::sum);
     }
 
-    private static void compare(int seed) {
-        Random random = new Random(seed);
-        ThreeModeJournal x = new ThreeModeJournal();
-        Model m = new Model();
-        Draw draw = new Draw(random, m);
-        StringBuilder calls = new StringBuilder();
-        for (int i = 0; i < CALLS; i++) {
-            String name = draw.name();
-            int a = draw.first(name);
-            int b = draw.second(name, a);
-            int c = random.nextInt();
+    /** One object and one model, with the same calls. */
+    private static final class Run {
+        private final int seed;
+        private final Random random;
+        private final ThreeModeJournal x = new ThreeModeJournal();
+        private final Model m = new Model();
+        private final StringBuilder calls = new StringBuilder();
+        private int callsMade = 0;
+        private boolean agrees = true;
+
+        Run(int seed) {
+            this.seed = seed;
+            random = new Random(seed);
+        }
+
+        /** Every other run is looked at as a whole at its end; the others go on to the last call. */
+        void compare() {
+            Draw draw = new Draw(random, m);
+            int drawn = CALLS - (seed % 2 == 0 ? lookAtAll(false) : 0);
+            while (agrees && callsMade < drawn) {
+                String name = draw.name();
+                int a = draw.first(name);
+                call(name, a, draw.second(name, a), random.nextInt());
+            }
+            if (agrees && callsMade < CALLS) {
+                lookAtAll(true);
+            }
+            if (agrees && m.up && !m.mapIsTrue()) {
+                differ("the model's map is not what its files have");
+            }
+        }
+
+        private void call(String name, int a, int b, int c) {
             boolean wasUp = m.up;
             int due = m.call(name, a, b, c);
             int got = callOn(x, name, a, b, c);
+            callsMade++;
             calls.append(' ').append(name).append('(').append(a).append(", ").append(b).append(", ").append(c).append(')');
             if (wasUp && !m.up && !name.equals("crash")) {
                 meet("failed: " + name);
             }
-            String difference = due == got ? difference(x, m) : "answered " + got + ", due is " + due;
-            if (difference != null) {
-                wrong++;
-                System.out.println("seed " + seed + ":" + calls + ": " + difference);
-                return;
+            if (due != got) {
+                differ("answered " + got + ", due is " + due);
             }
+        }
+
+        private void differ(String how) {
+            agrees = false;
+            wrong++;
+            System.out.println("seed " + seed + ":" + calls + ": " + how);
+        }
+
+        /** How many calls it takes to look at everything; they are made if that is wanted. */
+        private int lookAtAll(boolean made) {
+            int count = 0;
+            for (String name : LOOKS) {
+                int firsts = name.equals("home") ? 23 : name.equals("length") || name.equals("read") ? 6 : 1;
+                int seconds = name.equals("home") ? 4 : name.equals("read") ? 24 : 1;
+                for (int i = 0; i < firsts * seconds && agrees; i++) {
+                    count++;
+                    if (made) {
+                        call(name, i / seconds, i % seconds, 0);
+                    }
+                }
+            }
+            return count;
         }
     }
 
@@ -73,45 +117,24 @@ public final class ModelComparisonTest {
             case "write": return x.write(a, b, c) ? 1 : 0;
             case "cut": return x.cut(a, b) ? 1 : 0;
             case "rename": return x.rename(a, b) ? 1 : 0;
+            case "read": return x.read(a, b);
+            case "length": return x.length(a);
             case "commit": return x.commit();
             case "sync": return x.sync(a) ? 1 : 0;
             case "flush": return x.flush(a);
             case "checkpoint": return x.checkpoint(a);
             case "fuse": x.fuse(a); return 0;
             case "crash": return x.crash() ? 1 : 0;
-            default: return x.mount(a);
+            case "mount": return x.mount(a);
+            case "mode": return x.mode();
+            case "home": return x.home(a, b);
+            case "need": return x.need();
+            case "room": return x.room();
+            case "head": return x.head();
+            case "dirty": return x.dirty();
+            case "free": return x.free();
+            default: return x.writes();
         }
-    }
-
-    private static String difference(ThreeModeJournal x, Model m) {
-        int[][] pairs = {
-            {x.mode(), m.up ? m.mode : -1}, {x.need(), m.up ? m.need() : -1}, {x.room(), m.up ? m.room() : -1},
-            {x.head(), m.up ? m.head : -1}, {x.dirty(), m.up ? m.dirty.size() : -1},
-            {x.free(), m.up ? m.takeable().size() : -1}, {x.writes(), m.writes}};
-        String[] names = {"mode", "need", "room", "head", "dirty", "free", "writes"};
-        for (int i = 0; i < pairs.length; i++) {
-            if (pairs[i][0] != pairs[i][1]) {
-                return "then " + names[i] + "() answered " + pairs[i][0] + ", due is " + pairs[i][1];
-            }
-        }
-        for (int b = 0; b < 23; b++) {
-            for (int w = 0; w < 4; w++) {
-                if (x.home(b, w) != m.home[b][w]) {
-                    return "then home(" + b + ", " + w + ") answered " + x.home(b, w) + ", due is " + m.home[b][w];
-                }
-            }
-        }
-        for (int f = 0; f < 6; f++) {
-            if (x.length(f) != (m.up ? m.present[f][0] : -1)) {
-                return "then length(" + f + ") answered " + x.length(f);
-            }
-            for (int o = -1; o <= 24; o++) {
-                if (x.read(f, o) != m.read(f, o)) {
-                    return "then read(" + f + ", " + o + ") answered " + x.read(f, o) + ", due is " + m.read(f, o);
-                }
-            }
-        }
-        return m.up && !m.mapIsTrue() ? "the model's map is not what its files have" : null;
     }
 
     /** Draws calls that come far: files grow, logs fill, fuses are short, and a few arguments are wrong. */
@@ -133,6 +156,9 @@ public final class ModelComparisonTest {
         }
 
         String name() {
+            if (random.nextInt(3) == 0) {
+                return LOOKS[random.nextInt(LOOKS.length)];
+            }
             if (!m.up) {
                 int r = random.nextInt(10);
                 return r < 6 ? "mount" : r < 8 ? "fuse" : r == 8 ? "crash" : anyName();
@@ -169,6 +195,7 @@ public final class ModelComparisonTest {
 
         int first(String name) {
             switch (name) {
+                case "home": return random.nextInt(25) - 1;
                 case "fuse": return random.nextInt(6) == 0 ? -random.nextInt(5) : random.nextInt(random.nextBoolean() ? 6 : 40);
                 case "mount": return random.nextInt(12) == 0 ? oddNumber(3) : random.nextInt(3);
                 case "flush": case "checkpoint": return random.nextInt(10) == 0 ? oddNumber(1) : 1 + random.nextInt(6);
@@ -180,6 +207,8 @@ public final class ModelComparisonTest {
             int size = a >= 0 && a < 6 && m.up ? m.present[a][0] : 0;
             int r = random.nextInt(20);
             switch (name) {
+                case "home": return random.nextInt(6) - 1;
+                case "read": return r == 0 ? oddNumber(24) : random.nextInt(size + 2) - 1;
                 case "write": return r == 0 && grow == 0 ? oddNumber(24) : r < 4 ? random.nextInt(size + 2) : size;
                 case "cut": return r == 0 ? oddNumber(25) : r < 4 ? Math.max(0, size - 1) : random.nextInt(size + 1);
                 default: return r == 0 ? oddNumber(6) : random.nextInt(6);
@@ -225,13 +254,23 @@ public final class ModelComparisonTest {
                     case "write": return write(a, b, c) ? 1 : 0;
                     case "cut": return cut(a, b) ? 1 : 0;
                     case "rename": return rename(a, b) ? 1 : 0;
+                    case "read": return read(a, b);
+                    case "length": return up && isFile(a) ? present[a][0] : -1;
                     case "commit": return up ? commit() : -1;
                     case "sync": return sync(a) ? 1 : 0;
                     case "flush": return flush(a);
                     case "checkpoint": return checkpoint(a);
                     case "fuse": fuse = Math.max(a, -1); return 0;
                     case "crash": return crash() ? 1 : 0;
-                    default: return mount(a);
+                    case "mount": return mount(a);
+                    case "mode": return up ? mode : -1;
+                    case "home": return a >= 0 && a <= 22 && b >= 0 && b <= 3 ? home[a][b] : 0;
+                    case "need": return up ? need() : -1;
+                    case "room": return up ? room() : -1;
+                    case "head": return up ? head : -1;
+                    case "dirty": return up ? dirty.size() : -1;
+                    case "free": return up ? takeable().size() : -1;
+                    default: return writes;
                 }
             } catch (PowerFailure failure) {
                 return answersTruth ? 0 : -2;

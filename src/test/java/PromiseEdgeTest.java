@@ -1297,6 +1297,14 @@ public final class PromiseEdgeTest extends Checks {
         dueRefusedWhenDown("crash()", x -> truth(x.crash()), 0);
     }
 
+    static void promise12_whenDown_aFuseSetThenStays() {
+        ThreeModeJournal x = down();
+        x.fuse(2);
+        due("crash", x.crash(), false);
+        due("mount", x.mount(ORDERED), FAILED);
+        due("writes", x.writes(), 7);
+    }
+
     static void promise12_whenThePowerFailedBefore_isFalse() {
         ThreeModeJournal x = threeDirtyBlocks();
         x.fuse(0);

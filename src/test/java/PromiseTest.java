@@ -1,4 +1,4 @@
-/** For each promise of the document: ordinary calls, the edges that it names, and wrong arguments. */
+/** For each promise of the document, longer runs: ordinary calls together with edges and wrong arguments. */
 public final class PromiseTest extends Checks {
     public static void main(String[] args) {
         runTests(PromiseTest.class);

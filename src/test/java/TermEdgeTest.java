@@ -699,6 +699,22 @@ public final class TermEdgeTest extends Checks {
         due("need of two copies", x.need(), 4);
     }
 
+    static void termFreeing_indexWhoseCopyWasCheckpointedLongAgo_isNotRevoked() {
+        for (int since = 0; since <= 24; since++) {
+            ThreeModeJournal x = new ThreeModeJournal();
+            grow(x, 0, 9);
+            x.commit();
+            x.checkpoint(1);
+            for (int i = 0; i < since; i++) {
+                x.rename(3, 4);
+                x.commit();
+                x.checkpoint(1);
+            }
+            x.cut(0, 8);
+            due("need of two copies, " + since + " transactions later", x.need(), 4);
+        }
+    }
+
     static void termFreeing_indexWhoseCopyWasRecovered_isNotRevoked() {
         ThreeModeJournal x = new ThreeModeJournal();
         grow(x, 0, 9);
@@ -743,6 +759,17 @@ public final class TermEdgeTest extends Checks {
         x.crash();
         x.mount(ORDERED);
         due("writes of inode and map, three times, and the header", x.writes(), before + 7);
+    }
+
+    /** Nothing is said of a revoked block that ends its being revoked, but the commit and the loss of power. */
+    static void termFreeing_indexRevokedAndItsCopyCheckpointedThen_staysRevoked() {
+        ThreeModeJournal x = new ThreeModeJournal();
+        grow(x, 0, 9);
+        x.commit();
+        x.cut(0, 8);
+        x.checkpoint(1);
+        due("need of two copies and one revoked", x.need(), 5);
+        due("commit", x.commit(), 5);
     }
 
     static void termFreeing_severalIndexesInOneTransaction_areAllRevoked() {
@@ -1380,6 +1407,27 @@ public final class TermEdgeTest extends Checks {
             due("the write behind them", x.commit(), FAILED);
             due("writes", x.writes(), k);
         }
+    }
+
+    static void termWrites_callsThatWriteNothing_leaveTheFuse() {
+        ThreeModeJournal x = in(WRITEBACK);
+        x.fuse(1);
+        for (int i = 0; i < 3; i++) {
+            due("commit of nothing", x.commit(), 0);
+            due("sync of nothing", x.sync(0), true);
+            due("flush of nothing", x.flush(1), 0);
+            due("checkpoint of nothing", x.checkpoint(1), 0);
+            due("mount when up", x.mount(FULL), NONE);
+            due("sum of what can be looked at", x.mode() + x.need() + x.room() + x.head() + x.dirty() + x.free()
+                + x.writes() + x.read(0, 0) + x.length(0) + x.home(7, 0), 40);
+        }
+        x.write(0, 0, 1);
+        x.write(0, 1, 1);
+        x.cut(0, 1);
+        x.rename(0, 1);
+        due("flush", x.flush(1), 1);
+        x.write(1, 0, 2);
+        due("flush", x.flush(1), FAILED);
     }
 
     static void termWrites_withoutAFuse_everyWriteIsMade() {
