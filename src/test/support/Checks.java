@@ -14,6 +14,8 @@ abstract class Checks {
     static final int[] NO_FILES = {-1, 6, 7, 22, Integer.MIN_VALUE, Integer.MAX_VALUE};
     /** "All, if there are fewer": more than there ever are. */
     static final int ALL = 99;
+    /** Behind a real fault a drawn run would tell thousands; all are counted. */
+    private static final int MOST_TOLD = 200;
 
     private static String test = "";
     private static int checked = 0;
@@ -75,7 +77,9 @@ abstract class Checks {
         checked++;
         if (!got.equals(want)) {
             wrong++;
-            System.out.println(test + ", line " + lineOfTest() + ": " + what + " answered " + got + ", due is " + want);
+            if (wrong <= MOST_TOLD) {
+                System.out.println(test + ", line " + lineOfTest() + ": " + what + " answered " + got + ", due is " + want);
+            }
         }
     }
 
